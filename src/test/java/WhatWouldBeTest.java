@@ -6,6 +6,7 @@ public final class WhatWouldBeTest {
         promise14WhenAtTheDaysEnd();
         promise14WhenRefuses();
         promise15Advise();
+        promise15AdviseTheWidest();
         promise15AdviseWithoutPence();
         promise15AdviseAtTheDaysEnd();
         promise15AdviseRefuses();
@@ -115,6 +116,17 @@ public final class WhatWouldBeTest {
         // The pence paid before do not count.
         house.go(3);
         Check.due(2, house.advise(0, 10));
+    }
+
+    private static void promise15AdviseTheWidest() {
+        PinholeHouse house = new PinholeHouse();
+        house.addRoom(30, 1, 5);
+        house.setLight(0, 1, 0);
+        house.paint(0, 3);
+        house.pass(30, 0, 3, 1);
+        house.seat(0, 1);
+        // Of 81 / 10 the paint leaves 5, of 64 / 10 only 4.
+        Check.due(9, house.advise(0, 1));
     }
 
     private static void promise15AdviseWithoutPence() {
