@@ -7,6 +7,7 @@ public final class WhatIsThereTest {
         promise9RoomRefuses();
         promise10Wall();
         promise10WallBesideTheStreet();
+        promise10WallOfAFullStreet();
         promise10WallRefuses();
         promise11Bright();
         promise11BrightRefuses();
@@ -118,6 +119,21 @@ public final class WhatIsThereTest {
         for (int place = -36; place <= 36; place++) {
             Check.due(0, house.wall(1, place));
         }
+    }
+
+    private static void promise10WallOfAFullStreet() {
+        PinholeHouse house = new PinholeHouse();
+        for (int i = 0; i < 8; i++) {
+            house.addRoom(7 * i, 9, 1);
+        }
+        for (int i = 0; i < 10; i++) {
+            house.pass(28, 0, 9, 9);
+        }
+        for (int room = 0; room < 8; room++) {
+            Check.due(10, house.wall(room, 7 * room - 28));
+            Check.due(0, house.wall(room, 7 * room - 27));
+        }
+        Check.due(80, house.count(6));
     }
 
     private static void promise10WallRefuses() {
