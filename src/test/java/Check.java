@@ -19,8 +19,16 @@ final class Check {
         }
     }
 
-    static void due(double want, double got) {
+    /** For loops, where the line alone does not say which turn went wrong. */
+    static void due(String turn, long want, long got) {
         if (want != got) {
+            tell(turn + " answered " + got + ", due is " + want);
+        }
+    }
+
+    static void due(double want, double got) {
+        // Not by ==, which takes -0.0 for 0.0.
+        if (Double.compare(want, got) != 0) {
             tell("answered " + got + ", due is " + want);
         }
     }
@@ -28,18 +36,27 @@ final class Check {
     /** The call throws just this exception, and changes nothing. */
     static void thrown(Class<? extends RuntimeException> want, PinholeHouse house, Call call) {
         long before = house.digest();
-        Class<?> got = null;
-        try {
-            call.make();
-        } catch (RuntimeException e) {
-            got = e.getClass();
-        }
+        Class<?> got = thrownBy(call);
         if (got != want) {
             tell("threw " + got + ", due is " + want);
         }
         if (house.digest() != before) {
             tell("changed the house");
         }
+    }
+
+    /** What the call throws, null if it throws nothing. */
+    static Class<?> thrownBy(Call call) {
+        try {
+            call.make();
+        } catch (RuntimeException e) {
+            return e.getClass();
+        }
+        return null;
+    }
+
+    static void wrong(String what) {
+        tell(what);
     }
 
     private static void tell(String what) {

@@ -4,6 +4,8 @@
  */
 public final class ForetoldTest {
     private static final int DAY = 720;
+    // An object is used for at most 512 calls, so that a day is looked at in pieces, each with a house of its own.
+    private static final int PIECE = 30;
 
     private long seed;
 
@@ -28,12 +30,12 @@ public final class ForetoldTest {
         PinholeHouse house = furnished(start);
         long before = house.digest();
         for (int room = 0; room < house.count(4); room++) {
-            Check.due(whenComesAbout(furnished(start), room), house.when(room));
+            Check.due(whenComesAbout(start, room), house.when(room));
             int minutes = 1 + draw(200);
             Check.due(bestHole(start, room, minutes), house.advise(room, minutes));
         }
         for (int passer = 0; passer < house.count(2); passer++) {
-            Check.due(wallsPassed(furnished(start), passer), house.seen(passer));
+            Check.due(wallsPassed(start, passer), house.seen(passer));
         }
         compareForeseen(house, start, 1 + draw(DAY));
         compareForeseen(house, start, 1 + draw(20));
@@ -72,15 +74,29 @@ public final class ForetoldTest {
         }
     }
 
-    private static int whenComesAbout(PinholeHouse house, int room) {
+    /** The house for this start, some minutes after it was furnished. */
+    private PinholeHouse later(long start, int minutes) {
+        long kept = seed;
+        PinholeHouse house = furnished(start);
+        if (minutes > 0) {
+            house.go(minutes);
+        }
+        seed = kept;
+        return house;
+    }
+
+    private int whenComesAbout(long start, int room) {
         int greatest = 0;
         int best = -1;
-        while (house.count(8) == 0) {
-            if (house.room(room, 6) > greatest) {
-                greatest = house.room(room, 6);
-                best = house.count(0);
+        for (int minutes = 0; minutes < DAY; minutes += PIECE) {
+            PinholeHouse house = later(start, minutes);
+            for (int i = 0; i < PIECE && house.count(8) == 0; i++) {
+                if (house.room(room, 6) > greatest) {
+                    greatest = house.room(room, 6);
+                    best = house.count(0);
+                }
+                house.go(1);
             }
-            house.go(1);
         }
         return best;
     }
@@ -103,16 +119,26 @@ public final class ForetoldTest {
         return best;
     }
 
-    private static int wallsPassed(PinholeHouse house, int passer) {
-        int walls = 0;
-        do {
-            for (int room = 0; room < house.count(4); room++) {
-                if (house.bright(room, passer) >= 0) {
-                    walls |= 1 << room;
-                }
+    private int wallsPassed(long start, int passer) {
+        int walls = wallsNow(later(start, 0), passer);
+        for (int minutes = 0; minutes < DAY; minutes += PIECE) {
+            PinholeHouse house = later(start, minutes);
+            for (int i = 0; i < PIECE && house.count(8) == 0; i++) {
+                walls |= wallsNow(house, passer);
+                house.go(1);
             }
-            house.go(1);
-        } while (house.count(8) == 0);
+        }
+        return walls;
+    }
+
+    private static int wallsNow(PinholeHouse house, int passer) {
+        int walls = 0;
+        int rooms = house.count(4);
+        for (int room = 0; room < rooms; room++) {
+            if (house.bright(room, passer) >= 0) {
+                walls |= 1 << room;
+            }
+        }
         return walls;
     }
 
@@ -120,8 +146,8 @@ public final class ForetoldTest {
         long kept = seed;
         PinholeHouse other = furnished(start);
         int paid = 0;
-        for (int i = 0; i < minutes; i++) {
-            paid += other.go(1);
+        for (int left = minutes; left > 0; left -= 2) {
+            paid += other.go(Math.min(left, 2));
         }
         Check.due(paid, house.foresee(minutes, 0));
         Check.due(other.count(5), house.foresee(minutes, 1));
