@@ -49,11 +49,21 @@ public final class FaceTest {
     private static String told(Method method) {
         StringBuilder text = new StringBuilder();
         text.append(method.getReturnType()).append(' ').append(method.getName());
-        text.append('(').append(method.getParameterCount()).append(')');
+        text.append('(').append(parametersOf(method)).append(')');
         for (Class<?> thrown : method.getExceptionTypes()) {
             text.append(' ').append(thrown.getSimpleName());
         }
         return text.toString();
+    }
+
+    /** How many, as all are to be int; what they are, if they are not. */
+    private static String parametersOf(Method method) {
+        for (Class<?> type : method.getParameterTypes()) {
+            if (type != int.class) {
+                return Arrays.toString(method.getParameterTypes());
+            }
+        }
+        return "" + method.getParameterCount();
     }
 
     private static boolean same(String what, Set<String> want, Set<String> got) {
